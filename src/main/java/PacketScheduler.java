@@ -1304,19 +1304,20 @@ public final class PacketScheduler {
 
         History() {
             links = new Link[MOST_UNDOS];
-            for (int i = 0; i < links.length; i++) {
-                links[i] = new Link();
-            }
         }
 
         void forget() {
             count = 0;
         }
 
+        /** A place gets its rows when it is first needed, so that an object with a short history stays small. */
         void keep(Link link) {
             latest = latest + 1 < MOST_UNDOS ? latest + 1 : 0;
             count = Math.min(count + 1, MOST_UNDOS);
-            if (latest >= 0 && latest < links.length && links[latest] != null) {
+            if (latest >= 0 && latest < links.length) {
+                if (links[latest] == null) {
+                    links[latest] = new Link();
+                }
                 links[latest].copyFrom(link);
             }
         }
