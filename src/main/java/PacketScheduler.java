@@ -110,17 +110,20 @@ public final class PacketScheduler {
     private boolean hasSnapshot;
 
     public PacketScheduler() {
-        text = new Text();
-        link = new Link();
+        Text newText = new Text();
+        Setup newSetup = new Setup();
+        Link newLink = new Link();
+        newLink.begin(newSetup);
+        text = newText;
+        setup = newSetup;
+        spareSetup = new Setup();
+        link = newLink;
         trial = new Link();
         snapshot = new Link();
-        history = new History();
-        formatted = new StringBuilder();
-        setup = new Setup();
-        spareSetup = new Setup();
         hasSnapshot = false;
-        queryReader = new QueryReader(text, link);
-        link.begin(setup);
+        history = new History();
+        queryReader = new QueryReader(newText, newLink);
+        formatted = new StringBuilder();
     }
 
     public int feed(int a, int b, int c, int d, int e) {
@@ -855,7 +858,7 @@ public final class PacketScheduler {
 
     /** The flows, packets and transmissions, and the tick: all that operations change. */
     private static final class Link {
-        static final int NEVER = Integer.MAX_VALUE;
+        static final int NEVER = 2000000000;
 
         final Table flows;
         final long[] virtualTimes;

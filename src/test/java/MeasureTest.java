@@ -291,6 +291,12 @@ public final class MeasureTest {
         Check.due("the first one", x.weightFor(0, 2), 1);
         x.run(2);
         Check.due("a delivered packet", x.weightFor(0, 0), 1);
+        PacketScheduler most = Check.loaded("flow 1 60000; flow 16 60000; rule port 1 1 to 1; link 100; delay 1;");
+        for (int i = 0; i < 6; i++) {
+            most.arrive(0, 0, i % 2, 100);
+        }
+        // Packet 2 comes third only if its flow is not behind flow 1 then.
+        Check.due("only the greatest weight", most.weightFor(2, 4), 16);
         PacketScheduler y = Check.loaded("flow 9 60000; link 1; delay 1;");
         y.arrive(0, 0, 0, 299);
         Check.due("at the greatest limit", y.weightFor(0, 300), 1);
