@@ -1339,6 +1339,11 @@ public final class PacketScheduler {
         long low;
         long high;
 
+        PacketSet() {
+            low = 0;
+            high = 0;
+        }
+
         void put(int packet) {
             if (packet < 64) {
                 low |= 1L << packet;
