@@ -8,6 +8,7 @@ final class Check {
 
     private static int checks = 0;
     private static int wrong = 0;
+    private static String about = "";
 
     private Check() {
     }
@@ -19,8 +20,17 @@ final class Check {
                 : got == null ? want == null : got.equals(want);
         if (!same) {
             wrong++;
-            System.out.println(call + " answered " + got + ", due is " + want);
+            System.out.println(about + call + " answered " + got + ", due is " + want);
         }
+    }
+
+    /** What every failure from here on is said to be about. */
+    static void about(String subject) {
+        about = subject;
+    }
+
+    static int checks() {
+        return checks;
     }
 
     static Object answer(Call call) {
@@ -91,6 +101,60 @@ final class Check {
         }
         due("the byte behind the text", x.formattedByte(length), PacketScheduler.NONE);
         return text.toString();
+    }
+
+    /** Every answer that tells of the object's state, got by calls that change nothing. */
+    static String state(PacketScheduler x) {
+        StringBuilder text = new StringBuilder();
+        int[] counts = {x.flowCount(), x.ruleCount(), x.packetCount(), x.transmissionCount(), x.clock(), x.credit(),
+            x.nextFlow(), x.undoCount(), x.errorPosition()};
+        for (int count : counts) {
+            text.append(count).append(' ');
+        }
+        text.append(x.worst()).append(' ').append(x.spread()).append(" text ");
+        for (int i = 0; x.formattedByte(i) >= 0; i++) {
+            text.append((char) x.formattedByte(i));
+        }
+        flowStates(x, text);
+        for (int packet = 0; packet < x.packetCount(); packet++) {
+            text.append("; p");
+            for (int what = 0; what < 9; what++) {
+                text.append(' ').append(x.packet(packet, what));
+            }
+        }
+        for (int number = 0; number < x.transmissionCount(); number++) {
+            text.append("; t ").append(x.charge(number));
+            for (int what = 0; what < 5; what++) {
+                text.append(' ').append(x.transmission(number, what));
+            }
+        }
+        return text.toString();
+    }
+
+    private static void flowStates(PacketScheduler x, StringBuilder text) {
+        for (int flow = 0; flow < x.flowCount(); flow++) {
+            text.append("; f ").append(x.virtualTime(flow)).append(' ').append(x.isIdle(flow)).append(' ')
+                    .append(x.outstanding(flow)).append(' ').append(x.share(flow)).append(' ')
+                    .append(x.meanDelay(flow));
+            for (int what = 0; what < 16; what++) {
+                text.append(' ').append(x.flow(flow, what));
+            }
+            text.append(" queue");
+            for (int index = 0; x.queued(flow, index) >= 0; index++) {
+                text.append(' ').append(x.queued(flow, index));
+            }
+            text.append(" audits");
+            for (int age = 0; flow > 0 && age < 130; age++) {
+                text.append(' ').append(x.audit(0, flow, age));
+            }
+        }
+    }
+
+    /** A call that is refused, or that only looks, leaves everything as it is. */
+    static void unchanged(String what, PacketScheduler x, Call call) {
+        String before = state(x);
+        answer(call);
+        due("what " + what + " leaves", state(x), before);
     }
 
     static String times(String part, int number) {
