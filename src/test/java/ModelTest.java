@@ -9,11 +9,12 @@ public final class ModelTest {
     private final StringBuilder calls = new StringBuilder();
     private PacketScheduler x = new PacketScheduler();
     private Model y = new Model();
-    private int wide;
+    /** 0 addresses that rules often name, 1 small packets, 2 many flows, 3 many transmissions of each packet. */
+    private final int plan;
 
     private ModelTest(long seed) {
         random = new Random(seed);
-        wide = random.nextInt(3);
+        plan = random.nextInt(4);
     }
 
     public static void main(String[] args) {
@@ -92,7 +93,7 @@ public final class ModelTest {
         }
         if (kind < 66) {
             int packet = near(0, y.counts()[2] - 1);
-            int limit = random.nextInt(3) == 0 ? near(0, 300) : upTo(30);
+            int limit = random.nextInt(3) == 0 ? near(0, 1000) : upTo(30);
             return same("forecast(" + packet + ", " + limit + ")", () -> x.forecast(packet, limit),
                     () -> y.forecast(packet, limit));
         }
@@ -146,11 +147,11 @@ public final class ModelTest {
     }
 
     private boolean arrive() {
-        int range = wide == 0 ? 3 : 255;
+        int range = plan == 0 ? 3 : 255;
         int s = near(0, 40) == -1 ? -1 : upTo(range);
         int t = upTo(range);
         int p = near(0, 255) == 256 ? 256 : upTo(range);
-        int size = random.nextInt(3) == 0 ? near(1, 1500) : 1 + random.nextInt(wide == 1 ? 60 : 400);
+        int size = random.nextInt(3) == 0 ? near(1, 1500) : 1 + random.nextInt(plan == 1 ? 60 : 400);
         return same("arrive(" + s + ", " + t + ", " + p + ", " + size + ")", () -> x.arrive(s, t, p, size),
                 () -> y.arrive(s, t, p, size)) && (random.nextInt(4) != 0 || everything());
     }
@@ -255,7 +256,7 @@ public final class ModelTest {
 
     private String text() {
         StringBuilder text = new StringBuilder();
-        int flows = 1 + upTo(wide == 2 ? 5 : 2) + (random.nextInt(30) == 0 ? 2 : 0);
+        int flows = 1 + upTo(plan >= 2 ? 5 : 2) + (random.nextInt(30) == 0 ? 2 : 0);
         for (int f = 0; f < flows; f++) {
             text.append("flow ").append(near(1, 16)).append(' ').append(random.nextInt(3) == 0 ? 2000 : 60000);
             if (random.nextBoolean()) {
@@ -267,25 +268,26 @@ public final class ModelTest {
             if (random.nextBoolean()) {
                 text.append(" late ").append(2 + upTo(3)).append(' ').append(1 + upTo(20));
             }
-            if (random.nextBoolean()) {
-                text.append("\nretries ").append(near(0, 9));
+            if (plan == 3 || random.nextBoolean()) {
+                text.append("\nretries ").append(plan == 3 ? 9 : near(0, 9));
             }
             text.append(";");
         }
-        int rules = random.nextInt(20) == 0 ? 13 : upTo(5) + flows - 1;
+        int rules = random.nextInt(10) == 0 ? 12 + upTo(1) : upTo(5) + flows - 1;
         for (int r = 0; r < rules; r++) {
-            int least = wide == 0 ? upTo(3) : upTo(255);
+            int least = plan == 0 ? upTo(3) : upTo(255);
             String[] names = {" source ", " target ", " port "};
             text.append("rule").append(names[random.nextInt(3)]).append(least).append(' ')
-                    .append(least + upTo(wide == 0 ? 2 : 255 - least)).append(" to ")
+                    .append(least + upTo(plan == 0 ? 2 : 255 - least)).append(" to ")
                     .append(random.nextInt(60) == 0 ? flows : random.nextInt(flows)).append(';');
         }
-        text.append("link ").append(1 + (random.nextBoolean() ? upTo(300) : upTo(2000))).append("; ");
-        if (random.nextBoolean()) {
+        int rate = 1 + upTo(plan == 3 ? 8999 : random.nextBoolean() ? 300 : 2000);
+        text.append("link ").append(rate).append("; ");
+        if (plan == 3 || random.nextBoolean()) {
             text.append("delay ").append(1 + upTo(random.nextBoolean() ? 49 : 5)).append(" ;");
         }
-        if (random.nextBoolean()) {
-            text.append("timeout").append(1 + upTo(random.nextBoolean() ? 199 : 8)).append(";");
+        if (plan == 3 || random.nextBoolean()) {
+            text.append("timeout").append(1 + upTo(plan != 3 && random.nextBoolean() ? 199 : 8)).append(";");
         }
         return text.length() > 800 ? "" : text.toString();
     }
